@@ -1,0 +1,77 @@
+import java.util.Random;
+
+/** THE WAY over one PIECE of each length, with and without a BEND, for all SIZES and JOINTS. */
+public final class EveryPiece {
+    private static int wrong = 0;
+
+    public static void main(String[] args) {
+        int bags = args.length > 0 ? Integer.parseInt(args[0]) : 6;
+        Random random = new Random(7);
+        for (int a = 1; a <= 7; a++) {
+            for (int b = a + 1; b <= 8; b++) {
+                for (int c = b + 1; c <= 9; c++) {
+                    for (int joint = 0; joint <= 2; joint++) {
+                        tryAll("z" + a + "," + b + "," + c + ";j" + joint + ";", random, bags);
+                    }
+                }
+            }
+        }
+        System.out.println("EveryPiece: " + wrong + " wrong");
+        if (wrong != 0) {
+            System.exit(1);
+        }
+    }
+
+    private static void tryAll(String sizes, Random random, int bags) {
+        StoneFloors floors = new StoneFloors();
+        PlainModel model = new PlainModel();
+        for (int n = 0; n < bags; n++) {
+            StringBuilder text = new StringBuilder(sizes);
+            for (int colour = 0; colour < 3; colour++) {
+                int most = 2 + random.nextInt(6);
+                text.append("b").append(colour);
+                for (int size = 0; size < 3; size++) {
+                    text.append(",").append(random.nextInt(3) == 0 ? 0 : random.nextInt(most));
+                }
+                text.append(";");
+            }
+            int first = 1 + random.nextInt(12), second = 1 + random.nextInt(12);
+            text.append("l0,0,r").append(first).append("d").append(second).append(";");
+            text.append("l19,0,d").append(1 + random.nextInt(12)).append(";");
+            tell(floors, model, text.toString());
+            for (int i = 0; i < 2; i++) {
+                for (int colour = 0; colour < 3; colour++) {
+                    compare(floors, model, i, colour, text.toString());
+                }
+            }
+        }
+    }
+
+    private static void tell(StoneFloors floors, PlainModel model, String text) {
+        floors.wipe();
+        model.wipe();
+        for (char letter : text.toCharArray()) {
+            floors.write(letter);
+            model.write(letter);
+        }
+        if (floors.lay() != 2 || model.lay() != 2) {
+            wrong++;
+            System.out.println(text + " is not laid");
+        }
+    }
+
+    private static void compare(StoneFloors floors, PlainModel model, int i, int colour, String text) {
+        java.util.List<PlainModel.Stone> stones = model.theWay(model.now, i, colour);
+        int many = stones == null ? PlainModel.NONE : stones.size();
+        int got = floors.way(i, colour, -2);
+        boolean like = got == many;
+        for (int k = 0; like && k < many; k++) {
+            like = floors.way(i, colour, k) == stones.get(k).told();
+        }
+        like = like && floors.way(i, colour, 18) == StoneFloors.NONE;
+        if (!like) {
+            wrong++;
+            System.out.println(text + " way of " + i + " in " + colour + " is not " + stones);
+        }
+    }
+}
