@@ -16,6 +16,9 @@ public final class EveryPiece {
                 }
             }
         }
+        for (int cells = 9; cells <= 12; cells++) {
+            tryAllBags(cells);
+        }
         System.out.println("EveryPiece: " + wrong + " wrong");
         if (wrong != 0) {
             System.exit(1);
@@ -44,6 +47,19 @@ public final class EveryPiece {
                     compare(floors, model, i, colour, text.toString());
                 }
             }
+        }
+    }
+
+    /** Of these SIZES a PIECE can be laid in the most ways, each of them the only one for some BAG. */
+    private static void tryAllBags(int cells) {
+        StoneFloors floors = new StoneFloors();
+        PlainModel model = new PlainModel();
+        for (int bag = 0; bag < 343; bag++) {
+            String bags = "b0," + bag / 49 + "," + bag / 7 % 7 + "," + bag % 7 + ";";
+            String text = "z1,2,3;" + bags + "l0,0,r" + cells + "d1;l19,0,d" + cells + ";";
+            tell(floors, model, text);
+            compare(floors, model, 0, 0, text);
+            compare(floors, model, 1, 0, text);
         }
     }
 

@@ -546,6 +546,12 @@ public final class PromiseTests {
         StoneFloors z = laid("l0,0,r6;l2,0,r2;b0,6,0,0;b1,0,1,0;");
         due("order(0, 1, 0, -1)", z.order(0, 1, 0, -1), 0);
         due("order(1, 0, 0, -1)", z.order(1, 0, 0, -1), NONE);
+        StoneFloors alike = laid("l0,0,r5;l0,2,r5;l0,4,r5;");
+        for (int k = 0; k < 3; k++) {
+            due("order(0, 0, 0, " + k + ")", alike.order(0, 0, 0, k), k);
+        }
+        alike.cover(1, 0);
+        due("order(0, 0, 0, 1)", alike.order(0, 0, 0, 1), 2);
     }
 
     private static void bag() {
@@ -598,7 +604,7 @@ public final class PromiseTests {
 
     private static void undoOfEach() {
         promise = "18 undo of each";
-        StoneFloors x = laid("b0,6,5,1;l0,0,r9d3;l4,0,d5;");
+        StoneFloors x = laid("b0,6,5,1;l0,0,r8d1;l4,0,d6;");
         String[] seen = new String[5];
         seen[0] = all(x);
         x.cover(0, 0);
@@ -618,6 +624,15 @@ public final class PromiseTests {
         due("takeUp(0)", x.takeUp(0), NO);
         due("fill(2)", x.fill(2), NO);
         due("count(7)", x.count(7), 0);
+        due("cover(0, 0)", x.cover(0, 0), 1);
+        due("count(6)", x.count(6), 1);
+        due("takeUp(0)", x.takeUp(0), 3);
+        due("count(6)", x.count(6), 2);
+        due("undo()", x.undo(), 1);
+        due("line(0, 6)", x.line(0, 6), 1);
+        due("count(6)", x.count(6), 1);
+        due("takeUp(0)", x.takeUp(0), 3);
+        due("count(6)", x.count(6), 2);
     }
 
     /** All answers about a floor, but how many changes can be undone. */
