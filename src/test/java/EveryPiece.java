@@ -19,6 +19,9 @@ public final class EveryPiece {
         for (int cells = 9; cells <= 12; cells++) {
             tryAllBags(cells);
         }
+        for (int n = 0; n < 10 * bags; n++) {
+            tryCombs(random);
+        }
         System.out.println("EveryPiece: " + wrong + " wrong");
         if (wrong != 0) {
             System.exit(1);
@@ -63,14 +66,39 @@ public final class EveryPiece {
         }
     }
 
+    /** Two LINES that go up and down cut a third one, that goes to and fro, into 4 to 16 PIECES. */
+    private static void tryCombs(Random random) {
+        StoneFloors floors = new StoneFloors();
+        PlainModel model = new PlainModel();
+        int a = 1 + random.nextInt(3), b = a + 1 + random.nextInt(3), c = b + 1 + random.nextInt(3);
+        String text = "z" + a + "," + b + "," + c + ";j" + random.nextInt(3) + ";b2," + (3 + random.nextInt(4)) + ","
+                + (3 + random.nextInt(4)) + "," + (3 + random.nextInt(4)) + ";";
+        text += "l0," + (1 + random.nextInt(4)) + ",r" + (9 + random.nextInt(4)) + "d2l" + (5 + random.nextInt(4)) + "d"
+                + (1 + random.nextInt(2)) + "r" + (1 + random.nextInt(9)) + ";";
+        text += "l" + random.nextInt(3) + ",0,d11r2u10r2d" + (1 + random.nextInt(11)) + ";";
+        text += "l" + (5 + random.nextInt(3)) + ",0,d11r2u10r2d" + (1 + random.nextInt(11)) + ";";
+        tell(floors, model, text, 3);
+        for (int i = 1; i < 3; i++) {
+            if (floors.cover(i, i - 1) != model.cover(i, i - 1)) {
+                wrong++;
+                System.out.println(text + " is covered otherwise");
+            }
+            compare(floors, model, 0, 2, text);
+        }
+    }
+
     private static void tell(StoneFloors floors, PlainModel model, String text) {
+        tell(floors, model, text, 2);
+    }
+
+    private static void tell(StoneFloors floors, PlainModel model, String text, int lines) {
         floors.wipe();
         model.wipe();
         for (char letter : text.toCharArray()) {
             floors.write(letter);
             model.write(letter);
         }
-        if (floors.lay() != 2 || model.lay() != 2) {
+        if (floors.lay() != lines || model.lay() != lines) {
             wrong++;
             System.out.println(text + " is not laid");
         }
