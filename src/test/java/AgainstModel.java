@@ -12,10 +12,13 @@ public final class AgainstModel {
     private final int seed;
     /** Large floors make the model slow, so that most runs have small ones. */
     private final boolean large;
+    /** Lines told anywhere seldom meet; close ones do, so that covered ones cut up the others. */
+    private final boolean close;
 
-    private AgainstModel(int seed, boolean large) {
+    private AgainstModel(int seed) {
         this.seed = seed;
-        this.large = large;
+        large = seed % 20 == 0;
+        close = seed % 4 == 1;
         random = new Random(seed);
     }
 
@@ -23,7 +26,7 @@ public final class AgainstModel {
         int runs = args.length > 0 ? Integer.parseInt(args[0]) : 400;
         int first = args.length > 1 ? Integer.parseInt(args[1]) : 1;
         for (int seed = first; seed < first + runs; seed++) {
-            new AgainstModel(seed, seed % 20 == 0).run();
+            new AgainstModel(seed).run();
         }
         System.out.println("AgainstModel: " + calls + " calls, " + wrong + " wrong");
         if (wrong != 0) {
@@ -97,6 +100,7 @@ public final class AgainstModel {
     }
 
     private String item() {
+        if (close && below(2) == 0) return closeLine();
         int kind = below(10);
         if (kind < 2) {
             int a = 1 + below(7), b = a + 1 + below(8 - a), c = b + 1 + below(9 - b);
@@ -116,6 +120,21 @@ public final class AgainstModel {
             t.append(across ? below(3) == 0 ? 'l' : 'r' : below(3) == 0 ? 'u' : 'd');
             t.append(number(1 + below(large ? 12 : 7)));
             across = below(40) == 0 ? across : !across;
+        }
+        return t.toString();
+    }
+
+    /** A line that mostly winds on in steps or comes back, near the middle of the ground. */
+    private String closeLine() {
+        StringBuilder t = new StringBuilder("l" + (5 + below(7)) + "," + (5 + below(7)) + ",");
+        int runs = 2 + below(4);
+        boolean across = below(2) == 0;
+        int turn = below(2);
+        for (int r = 0; r < runs; r++) {
+            int hand = below(4) == 0 ? below(2) : r / 2 % 2;
+            t.append(across ? hand == turn ? 'l' : 'r' : hand == 0 ? 'u' : 'd');
+            t.append(1 + below(r == 0 ? 8 : 5));
+            across = !across;
         }
         return t.toString();
     }

@@ -82,7 +82,40 @@ public final class SourceRules {
             check(List.of("java.util.Arrays", "java.util.ArrayList", "java.util.List").contains(imports.group(1)),
                     "import of " + imports.group(1));
         }
+        library(code);
+        staticFields(code);
         methodLengths(all);
+    }
+
+    /** Rule 4, as far as names tell: what is called on a class of the library, and what is made new. */
+    private static void library(String code) {
+        Matcher calls = Pattern.compile("\\b(String|Integer|Long|Math|Arrays|System|List)\\.(\\w+)").matcher(code);
+        while (calls.find()) {
+            if (code.startsWith("import ", code.lastIndexOf('\n', calls.start()) + 1)) {
+                continue;
+            }
+            check(List.of("Integer.bitCount", "Integer.compare", "Math.min", "Math.max", "Math.abs", "Math.floorMod",
+                    "Math.floorDiv", "Arrays.fill", "Arrays.copyOf", "Arrays.copyOfRange", "System.arraycopy")
+                    .contains(calls.group()), "use of " + calls.group());
+        }
+        TreeSet<String> own = new TreeSet<>(List.of("int", "char", "boolean"));
+        for (Class<?> inside : StoneFloors.class.getDeclaredClasses()) {
+            own.add(inside.getSimpleName());
+        }
+        Matcher made = Pattern.compile("\\bnew (\\w+)(\\[[^\\]]*\\]\\[)?").matcher(code);
+        while (made.find()) {
+            boolean flat = made.group(2) == null || made.group(1).equals("int");
+            check(own.contains(made.group(1)) && flat, "making of " + made.group());
+        }
+    }
+
+    /** Rule 5: no state but that of objects. */
+    private static void staticFields(String code) {
+        Matcher fields = Pattern.compile("\\bstatic (?!final class)[^(){;]*[=;]").matcher(code);
+        while (fields.find()) {
+            check(fields.group().matches("static final (int|String) [A-Z_]+ =(?s).*"), "static field " + fields.group());
+        }
+        check(!Pattern.compile("\\bstatic\\s*\\{").matcher(code).find(), "no static block");
     }
 
     private static void methodLengths(String all) {
